@@ -578,21 +578,22 @@ public final class TallerTrees {
         }
 
         private boolean readItem() {
-            if (kind != LETTERS || !readTold()) {
+            if (kind != LETTERS) {
+                return false;
+            }
+            boolean isTold;
+            switch (value) {
+                case 't': isTold = readTree(); break;
+                case 'h': isTold = readHouse(); break;
+                case 'r': isTold = readReach(); break;
+                case 'u': isTold = readUsed(); break;
+                default: isTold = false;
+            }
+            if (!isTold) {
                 return false;
             }
             toToken();
             return kind == STOP;
-        }
-
-        private boolean readTold() {
-            switch (value) {
-                case 't': return readTree();
-                case 'h': return readHouse();
-                case 'r': return readReach();
-                case 'u': return readUsed();
-                default: return false;
-            }
         }
 
         private boolean readTree() {
@@ -663,7 +664,7 @@ public final class TallerTrees {
         }
 
         private void toEndOf(int least, int most) {
-            while (place < length && isWithin(bytes[place], least, most)) {
+            while (place < length && bytes[place] >= least && bytes[place] <= most) {
                 place++;
             }
         }

@@ -192,6 +192,9 @@ public final class PromisesTest {
         fault("u0;", 1);
         fault("u10;", 1);
         fault("u1;u1;", 3);
+        TallerTrees twice = Check.told("u4;r4;");
+        Check.types(twice, "u5;r5;");
+        Check.due("4 u, r told once in each text", twice.field(), 2);
         fault("tt1 2 3 4;", 0);
         fault("th", 0);
         fault(" x;", 1);
@@ -356,6 +359,8 @@ public final class PromisesTest {
         Check.due("8 tree ahead of house", Check.told("h4 1 9;t5 1 9 0;t4 3 9 0;").storm(1), 1);
         Check.due("8 the lesser tree", Check.told("t4 3 9 0;t4 1 9 0;h4 1 9;").storm(1), 0);
         Check.due("8 the lesser house", Check.told("h4 3 9;h4 1 9;").storm(1), 100);
+        Check.due("8 the least x of houses", Check.told("h4 3 9;h2 1 9;h3 1 9;").storm(1), 101);
+        Check.due("8 the least x, then no more", Check.told("t5 1 9 0;h1 1 9;h3 1 9;").storm(1), 100);
         Check.due("8 the highest", Check.told("h0 3 9;h4 1 10;t0 0 9 0;").storm(1), 101);
         TallerTrees x = Check.told("t1 1 9 0;t2 1 9 0;t3 1 9 0;h2 1 9;");
         int[] due = {0, 1, 100, 100};
@@ -478,6 +483,9 @@ public final class PromisesTest {
         Check.due("12 struck then", x.now(4), 3);
         x.year();
         Check.due("12 year then", x.now(0), 1);
+        TallerTrees y = Check.told("t0 0 8 5;t5 5 9 5;h0 0 8;h5 5 8;r1;");
+        Check.due("12 covered now, not in a year", y.now(1), 2);
+        Check.due("12 enough now, not in a year", y.now(5), 2);
         Check.due("12 -1", x.now(-1), BAD);
         Check.due("12 6", x.now(6), BAD);
     }
@@ -530,6 +538,12 @@ public final class PromisesTest {
         z.tops(0, 1);
         z.storm(9);
         Check.due("14 not struck", z.when(0), 60);
+        TallerTrees never = Check.told("t5 5 1 1;h5 9 60;r4;u1;");
+        Check.due("14 sixty, from there", never.when(0), 60);
+        Check.due("14 struck", never.storm(5), 0);
+        Check.due("14 sixty-one is too late", never.when(0), NONE);
+        never.year();
+        Check.due("14 sixty again", never.when(0), 60);
         TallerTrees late = Check.told("t0 0 1 2;h0 0 60;");
         Check.years(late, 29);
         Check.due("14 in one", late.when(0), 1);
@@ -588,6 +602,9 @@ public final class PromisesTest {
         x.storm(0);
         Check.due("16 used up", x.sold(1), 0);
         Check.due("16 the next", x.sold(2), 2);
+        Check.due("16 the highest is last", Check.told("t0 0 5 0;t0 0 6 0;t0 0 7 0;h0 0 1;").sold(-1), 2);
+        Check.due("16 the highest is first", Check.told("t0 0 7 0;t0 0 6 0;t0 0 5 0;h0 0 1;").sold(-1), 0);
+        Check.due("16 alike", Check.told("t0 0 7 0;t0 0 7 0;h0 0 1;").sold(1), 0);
         Check.due("16 of several the least", Check.told("t9 9 9 0;t0 0 5 0;t5 5 9 0;h0 0 1;h5 5 1;r1;").sold(-1), 1);
         Check.due("16 none", Check.told("t9 9 1 0;h0 0 1;").sold(-1), NONE);
     }
@@ -746,6 +763,9 @@ public final class PromisesTest {
         Check.due("22 used up covers none", y.whose(0), 0);
         y.undo();
         Check.due("22 by 1 .. 4", y.whose(0), 4);
+        TallerTrees z = Check.told("t0 0 10 5;t9 9 8 5;h0 0 12;h9 9 9;h9 0 1;");
+        z.saw(0);
+        Check.due("22 now, not in a year", z.whose(0), 80);
     }
 
     private static void mark() {
@@ -757,6 +777,7 @@ public final class PromisesTest {
             Check.due("23 first as " + kind, x.mark(kind, 0), first[kind]);
             Check.due("23 second as " + kind, x.mark(kind, 1), second[kind]);
         }
+        Check.due("23 covers now, not in a year", Check.told("t0 0 5 5;h0 0 5;").mark(1, 0), 5);
         Check.due("23 below 0", Check.told("t9 0 1 0;").mark(2, 0), -8);
         Check.due("23 -9", Check.told("t9 0 1 0;").mark(4, 0), -8);
         long before = x.trace();
@@ -806,6 +827,11 @@ public final class PromisesTest {
         Check.due("25 topped", x.tree(0, 2), 6);
         Check.due("25 struck twice", x.house(0, 3), 2);
         Check.due("25 known 7", x.count(4), 7);
+        for (int i = 6; i >= 4; i--) {
+            Check.due("25 undone by the other's past", x.undo(), i);
+        }
+        Check.due("25 not yet topped", x.tree(0, 2), 11);
+        Check.due("25 not yet planted", x.count(0), 1);
         Check.due("25 the first again", x.back(0), 1);
         Check.due("25 known 3", x.count(4), 3);
         x.year();
