@@ -769,7 +769,12 @@ public final class TallerTrees {
 
         int lone(int h) {
             int bits = over(h);
-            return Integer.bitCount(bits) == 1 ? Integer.numberOfTrailingZeros(bits) : NONE;
+            for (int t = 0; t < scene.trees(); t++) {
+                if (bits == 1 << t) {
+                    return t;
+                }
+            }
+            return NONE;
         }
 
         int firstYear(int h) {
