@@ -107,8 +107,9 @@ public final class FaceTest {
         fine("methods were looked at: " + methods, methods > 60);
     }
 
+    // Some 450 calls: an object is good for 512.
     private static void play(TallerTrees x) {
-        for (int i = 0; i < 10; i++) {
+        for (int i = 0; i < 4; i++) {
             x.year();
             x.storm(i);
             x.tops(0, 1);
@@ -143,10 +144,11 @@ public final class FaceTest {
 
     private static void room() {
         com.sun.management.ThreadMXBean beans = (com.sun.management.ThreadMXBean) ManagementFactory.getThreadMXBean();
-        TallerTrees x = new TallerTrees();
-        for (int i = 0; i < 20; i++) play(x);
+        TallerTrees[] made = new TallerTrees[150];
+        for (int i = 0; i < made.length; i++) made[i] = new TallerTrees();
+        for (int i = 0; i < 50; i++) play(made[i]);
         long before = beans.getCurrentThreadAllocatedBytes();
-        for (int i = 0; i < 20; i++) play(x);
+        for (int i = 50; i < made.length; i++) play(made[i]);
         long bytes = beans.getCurrentThreadAllocatedBytes() - before;
         fine("calls make no objects: " + bytes + " bytes", bytes < 4096);
         before = beans.getCurrentThreadAllocatedBytes();
